@@ -802,8 +802,7 @@ public final class BreweryHouse {
             }
         }
 
-        void drainSpace(int space) {
-            leave(space, amount[space]);
+        void emptyCells(int space) {
             int pipe = space - plant.things;
             for (int i = 0; pipe >= 0 && i < 4; i++) {
                 litres[pipe * 4 + i] = 0;
@@ -862,14 +861,25 @@ public final class BreweryHouse {
         private final boolean[] taken = new boolean[PIPES];
         // How many open ways go over a pump or valve.
         private final int[] over = new int[THINGS];
+        // What the cheapest way costs that enters a pipe at an end: litres first, then pipes.
         private final int[] leg = new int[2 * PIPES];
         // The way that was found last: the ends where its pipes are left.
         final int[] path = new int[PIPES];
         int pathLength;
         private final int[] before = new int[THINGS];
+        // The least position in which a kind passes from one port to another.
+        private final int[] needed = new int[(TANK + 1) * 16];
 
         Ways(Stock stock) {
             this.stock = stock;
+            for (int i = 0; i < needed.length; i++) {
+                needed[i] = NONE;
+                for (int position = POSITIONS - 1; position >= 0; position--) {
+                    if ((PASSES[(i >> 4) * POSITIONS + position] >> (i & 15) & 1) != 0) {
+                        needed[i] = position;
+                    }
+                }
+            }
         }
 
         void forget() {
@@ -922,34 +932,9 @@ public final class BreweryHouse {
         /** The way from x to y into path, as the ends where its pipes are left: whether there is one. */
         boolean find(int x, int y) {
             Plant plant = stock.plant;
-            reckonCosts(y);
-            int entry = NONE;
-            int best = FAR;
-            for (int e = 0; e < 2 * plant.pipes; e++) {
-                if (plant.endThing[e] == x && leg[e] < best) {
-                    entry = e;
-                    best = leg[e];
-                }
-            }
-            pathLength = 0;
-            while (entry >= 0 && pathLength < PIPES) {
-                int out = entry ^ 1;
-                path[pathLength] = out;
-                pathLength++;
-                if (plant.endThing[out] == y) {
-                    return true;
-                }
-                entry = onward(out);
-            }
-            return false;
-        }
-
-        /** What the cheapest way to a tank costs that enters a pipe at an end: litres first, then pipes. */
-        private void reckonCosts(int tank) {
-            Plant plant = stock.plant;
             int ends = 2 * plant.pipes;
             for (int e = 0; e < ends; e++) {
-                boolean arrives = plant.endThing[e ^ 1] == tank && !taken[e >> 1];
+                boolean arrives = plant.endThing[e ^ 1] == y && !taken[e >> 1];
                 leg[e] = arrives ? plant.pipeRoom[e >> 1] * 32 + 1 : FAR;
             }
             boolean changed = true;
@@ -964,6 +949,27 @@ public final class BreweryHouse {
                     }
                 }
             }
+            int entry = cheapestEntry(x);
+            pathLength = 0;
+            while (entry >= 0 && pathLength < PIPES) {
+                int out = entry ^ 1;
+                path[pathLength] = out;
+                pathLength++;
+                entry = plant.endThing[out] == y ? NONE : onward(out);
+            }
+            return pathLength > 0;
+        }
+
+        private int cheapestEntry(int tank) {
+            int entry = NONE;
+            int best = FAR;
+            for (int e = 0; e < 2 * stock.plant.pipes; e++) {
+                if (stock.plant.endThing[e] == tank && leg[e] < best) {
+                    entry = e;
+                    best = leg[e];
+                }
+            }
+            return entry;
         }
 
         /** The end where the way goes on best; ports are in the order of pipes, so the first of equals is due. */
@@ -974,30 +980,16 @@ public final class BreweryHouse {
             int least = FAR;
             for (int port = 0; port < PORTS && thing >= 0; port++) {
                 int entry = plant.portEnd[thing * PORTS + port];
-                if (entry >= 0 && leg[entry] < least && mayGo(thing, plant.endPort[out], port)) {
-                    best = entry;
-                    least = leg[entry];
+                if (entry >= 0 && leg[entry] < least) {
+                    int needs = needed[plant.kind[thing] * 16 + plant.endPort[out] * PORTS + port];
+                    boolean free = over[thing] == 0 || plant.kind[thing] != PUMP && stock.position[thing] == needs;
+                    if (needs >= 0 && free) {
+                        best = entry;
+                        least = leg[entry];
+                    }
                 }
             }
             return best;
-        }
-
-        private boolean mayGo(int thing, int a, int b) {
-            int needed = neededPosition(thing, a, b);
-            if (needed < 0 || over[thing] == 0) {
-                return needed >= 0;
-            }
-            return stock.plant.kind[thing] != PUMP && stock.position[thing] == needed;
-        }
-
-        private int neededPosition(int thing, int a, int b) {
-            int row = stock.plant.kind[thing] * POSITIONS;
-            for (int i = 0; i < POSITIONS; i++) {
-                if ((PASSES[row + i] >> (PORTS * a + b) & 1) != 0) {
-                    return i;
-                }
-            }
-            return NONE;
         }
 
         void openFound(int x, int y, int litres) {
@@ -1011,8 +1003,8 @@ public final class BreweryHouse {
                     int thing = plant.endThing[path[i]];
                     before[thing] = stock.position[thing];
                     if (plant.kind[thing] != PUMP) {
-                        stock.position[thing] =
-                                neededPosition(thing, plant.endPort[path[i]], plant.endPort[path[i + 1] ^ 1]);
+                        int ports = plant.endPort[path[i]] * PORTS + plant.endPort[path[i + 1] ^ 1];
+                        stock.position[thing] = needed[plant.kind[thing] * 16 + ports];
                     }
                     over[thing]++;
                 }
@@ -1142,7 +1134,9 @@ public final class BreweryHouse {
 
         boolean isSafe() {
             failure = 0;
-            if (!findSources()) {
+            Arrays.fill(sources, 0);
+            ways.addSources(sources);
+            if (!findRivals()) {
                 return true;
             }
             link(NONE, 0);
@@ -1178,12 +1172,10 @@ public final class BreweryHouse {
         }
 
         /** Where each liquid floods from, and which others it may not meet: whether there are such. */
-        private boolean findSources() {
-            Arrays.fill(sources, 0);
+        private boolean findRivals() {
             for (int s = 0; s < stock.plant.things + stock.plant.pipes; s++) {
                 sources[stock.liquid[s]] |= 1L << s;
             }
-            ways.addSources(sources);
             int present = 0;
             for (int liquid = 1; liquid <= LIQUIDS; liquid++) {
                 present |= sources[liquid] != 0 ? 1 << liquid : 0;
@@ -1200,16 +1192,21 @@ public final class BreweryHouse {
         /** Whether two liquids meet as the spaces are linked; then it tells where, and which. */
         private boolean meet() {
             where = SPACES;
-            for (int liquid = 1; liquid <= LIQUIDS; liquid++) {
-                flooded[liquid] = rivals[liquid] == 0 ? 0 : flood(sources[liquid]);
-            }
-            for (int one = 1; one < LIQUIDS; one++) {
-                for (int other = one + 1; rivals[one] >> other != 0 && other <= LIQUIDS; other++) {
+            for (int one = 1; one <= LIQUIDS; one++) {
+                flooded[one] = sources[one];
+                long fresh = rivals[one] == 0 ? 0 : sources[one];
+                for (int i = 0; i < SPACES && fresh != 0; i++) {
+                    long next = reach[Long.numberOfTrailingZeros(fresh) % SPACES] & ~flooded[one];
+                    fresh = fresh & fresh - 1 | next;
+                    flooded[one] |= next;
+                }
+                for (int other = 1; other < one; other++) {
                     long both = (rivals[one] >> other & 1) != 0 ? flooded[one] & flooded[other] : 0;
-                    if (both != 0 && Long.numberOfTrailingZeros(both) < where) {
-                        where = Long.numberOfTrailingZeros(both);
-                        firstLiquid = one;
-                        secondLiquid = other;
+                    int space = both == 0 ? SPACES : Long.numberOfTrailingZeros(both);
+                    if (space < where || space == where && space < SPACES && other < firstLiquid) {
+                        where = space;
+                        firstLiquid = other;
+                        secondLiquid = one;
                     }
                 }
             }
@@ -1237,20 +1234,6 @@ public final class BreweryHouse {
                     }
                 }
             }
-        }
-
-        private long flood(long from) {
-            long all = from;
-            long fresh = from;
-            for (int i = 0; i < SPACES && fresh != 0; i++) {
-                int space = Long.numberOfTrailingZeros(fresh);
-                fresh &= fresh - 1;
-                if (space < SPACES) {
-                    fresh |= reach[space] & ~all;
-                    all |= reach[space];
-                }
-            }
-            return all;
         }
     }
 
@@ -1302,14 +1285,11 @@ public final class BreweryHouse {
             return (stack & 1) != 0;
         }
 
-        private boolean isHeld(int r) {
-            return isOn(r) && counts[r] >= least[r];
-        }
-
         void countSecond() {
             for (int r = 0; r < count; r++) {
-                counts[r] = isOn(r) ? Math.min(counts[r] + 1, 1000000) : 0;
-                if (latching[r] && isHeld(r)) {
+                boolean on = isOn(r);
+                counts[r] = on ? Math.min(counts[r] + 1, 1000000) : 0;
+                if (latching[r] && on && counts[r] >= least[r]) {
                     latched[r] = true;
                 }
                 if (passed[r] > 0) {
@@ -1321,7 +1301,8 @@ public final class BreweryHouse {
         /** The first row that bars an act, 0 when none does. */
         int barring(int act) {
             for (int r = 0; r < count; r++) {
-                if ((barred[r] >>> act & 1) != 0 && passed[r] == 0 && (latched[r] || isHeld(r))) {
+                boolean concerned = (barred[r] >>> act & 1) != 0 && passed[r] == 0;
+                if (concerned && (latched[r] || counts[r] >= least[r] && isOn(r))) {
                     return r + 1;
                 }
             }
@@ -1593,6 +1574,10 @@ public final class BreweryHouse {
         private static final int DEEPEST = 20;
         private static final int DEEPEST_BLOCK = 40;
         private static final long GREATEST = 999999999999L;
+        private static final int TEST = 0;
+        private static final int SUM = 1;
+        private static final int PRODUCT = 2;
+        private static final int FACTOR = 3;
 
         private Tape tape;
         private Program program;
@@ -1634,7 +1619,16 @@ public final class BreweryHouse {
             wrong = NONE;
             nextWord();
             for (int i = 0; i <= LONGEST && wrong < 0 && word >= SIGNAL && word <= STEP; i++) {
-                readDeclaration();
+                int kind = word;
+                long told = takeNewName();
+                int block = kind == STEP ? readBlock() : NONE;
+                int unit = kind == STEP ? 0 : takeUnit();
+                if (kind == STEP) {
+                    makeNode(STEP, 0);
+                } else {
+                    take(';');
+                }
+                program.addName(told, kind, unit, block);
             }
             int all = 0;
             int deepest = 0;
@@ -1754,28 +1748,20 @@ public final class BreweryHouse {
             return node;
         }
 
-        private void readDeclaration() {
-            int kind = word;
+        /** The name of a declaration that the word begins: its code, and the word behind it is next. */
+        private long takeNewName() {
             nextWord();
-            if (word != NAME || program.find(code) >= 0 || program.names >= NAMES) {
-                fail();
-                return;
-            }
             long told = code;
-            nextWord();
-            if (kind == STEP) {
-                int block = readBlock();
-                makeNode(STEP, 0);
-                program.addName(told, kind, 0, block);
-                return;
+            if (word != NAME || program.find(told) >= 0 || program.names >= NAMES) {
+                fail();
+                return 0;
             }
-            int unit = takeUnit();
-            take(';');
-            program.addName(told, kind, unit, NONE);
+            nextWord();
+            return told;
         }
 
         private int takeUnit() {
-            if (word < 1 || word > LAST_UNIT) {
+            if (wrong >= 0 || word < 1 || word > LAST_UNIT) {
                 return 0;
             }
             int unit = word;
@@ -1858,11 +1844,11 @@ public final class BreweryHouse {
         private int readChange(int kind) {
             int name = takeName(OUTPUT);
             int from = program.nodes;
-            demand(readSum(), name < 0 ? 0 : program.nameUnit[name]);
+            demand(readLevel(SUM), name < 0 ? 0 : program.nameUnit[name]);
             int to = program.nodes;
             if (kind == RAMP) {
                 take(IN);
-                demand(readSum(), SECONDS);
+                demand(readLevel(SUM), SECONDS);
             }
             take(';');
             return giveRange(makeNode(kind, name), from, to);
@@ -1883,9 +1869,9 @@ public final class BreweryHouse {
         private int readPause(int kind) {
             int from = program.nodes;
             if (kind == WAIT) {
-                demand(readSum(), SECONDS);
+                demand(readLevel(SUM), SECONDS);
             } else {
-                readTest();
+                readLevel(TEST);
             }
             int to = program.nodes;
             take(';');
@@ -1914,9 +1900,9 @@ public final class BreweryHouse {
         private int readGuarded(int kind) {
             int from = program.nodes;
             if (kind == REPEAT) {
-                demand(readSum(), 0);
+                demand(readLevel(SUM), 0);
             } else {
-                readTest();
+                readLevel(TEST);
             }
             int to = program.nodes;
             int first = readBlock();
@@ -1955,39 +1941,41 @@ public final class BreweryHouse {
             return node;
         }
 
-        private void readTest() {
-            int unit = readSum();
-            int operator = word;
-            int where = place;
-            if (wrong >= 0 || operator != '<' && operator != '=' && operator != '>') {
+        /** Reads a test, sum or product: its unit. */
+        private int readLevel(int level) {
+            int next = level + 1;
+            int unit = next < FACTOR ? readLevel(next) : readFactor();
+            int most = level == TEST ? 1 : LONGEST;
+            int joined = 0;
+            while (joined < most && wrong < 0 && levelOf(word) == level) {
+                int operator = word;
+                int where = place;
+                nextWord();
+                int other = next < FACTOR ? readLevel(next) : readFactor();
+                unit = join(operator, where, unit, other);
+                joined++;
+            }
+            if (level == TEST && joined == 0) {
                 fail();
-                return;
-            }
-            nextWord();
-            join(operator, where, unit, readSum());
-        }
-
-        /** Reads a sum: its unit. */
-        private int readSum() {
-            int unit = readProduct();
-            for (int i = 0; i <= LONGEST && wrong < 0 && (word == '+' || word == '-'); i++) {
-                int operator = word;
-                int where = place;
-                nextWord();
-                unit = join(operator, where, unit, readProduct());
             }
             return unit;
         }
 
-        private int readProduct() {
-            int unit = readFactor();
-            for (int i = 0; i <= LONGEST && wrong < 0 && (word == '*' || word == '/'); i++) {
-                int operator = word;
-                int where = place;
-                nextWord();
-                unit = join(operator, where, unit, readFactor());
+        private static int levelOf(int operator) {
+            switch (operator) {
+                case '<':
+                case '=':
+                case '>':
+                    return TEST;
+                case '+':
+                case '-':
+                    return SUM;
+                case '*':
+                case '/':
+                    return PRODUCT;
+                default:
+                    return FACTOR;
             }
-            return unit;
         }
 
         /** The node of an operator whose sides were read, and the unit that it gives. */
@@ -2014,51 +2002,41 @@ public final class BreweryHouse {
 
         private int readFactor() {
             int start = word;
-            if (wrong >= 0 || start != NUMBER && start != NAME && (start != '(' && start != '-' || open >= DEEPEST)) {
-                fail();
-                return 0;
-            }
             int name = start == NAME ? program.find(code) : NONE;
-            if (start == NAME && !program.hasValue(name)) {
+            boolean opens = (start == '(' || start == '-') && open < DEEPEST;
+            if (wrong >= 0 || start != NUMBER && !opens && !program.hasValue(name)) {
                 fail();
                 return 0;
             }
             long value = number;
             nextWord();
             if (start == NUMBER) {
-                return readUnit(value);
+                value *= word == MIN ? 60 : word == HOUR ? 3600 : 1;
+                if (value > GREATEST) {
+                    fail();
+                    return 0;
+                }
+                int unit = word == MIN || word == HOUR ? SECONDS : word >= 1 && word <= LAST_UNIT ? word : 0;
+                if (unit > 0) {
+                    nextWord();
+                }
+                program.number[makeNode(NUMBER, 0)] = value;
+                return unit;
             }
             if (start == NAME) {
                 makeNode(NAME, name);
                 return program.nameUnit[name];
             }
             open++;
-            int unit = start == '-' ? readFactor() : readSum();
+            int unit = start == '-' ? readFactor() : readLevel(SUM);
             if (start == '-') {
                 makeNode(NEGATE, 0);
+            } else if (word == ')') {
+                nextWord();
             } else {
-                take(')');
+                fail();
             }
             open--;
-            return unit;
-        }
-
-        /** The node of a number, and its unit. */
-        private int readUnit(long thousandths) {
-            long value = thousandths;
-            int unit = word >= 1 && word <= HOUR ? word : 0;
-            if (unit > LAST_UNIT) {
-                value *= unit == HOUR ? 3600 : 60;
-                unit = SECONDS;
-            }
-            if (value > GREATEST) {
-                fail();
-                return 0;
-            }
-            if (unit > 0) {
-                nextWord();
-            }
-            program.number[makeNode(NUMBER, 0)] = value;
             return unit;
         }
     }
@@ -2651,7 +2629,8 @@ public final class BreweryHouse {
             if (ways.hasSpace(space)) {
                 return 3;
             }
-            stock.drainSpace(space);
+            stock.leave(space, stock.amount[space]);
+            stock.emptyCells(space);
             return 0;
         }
     }
