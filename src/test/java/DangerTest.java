@@ -16,10 +16,11 @@ public final class DangerTest {
 
     public static void main(String[] args) throws ReflectiveOperationException {
         Check check = new Check();
-        int plants = args.length > 0 ? Integer.parseInt(args[0]) : 60;
+        int plants = args.length > 0 ? Integer.parseInt(args[0]) : 100;
         for (int i = 0; i < plants; i++) {
             run(check, "plant " + i + " ");
         }
+        System.out.println(kinds[0] + " safe ones, " + kinds[1] + " without and " + kinds[2] + " with a failure");
         check.due("28: safe ones", kinds[0] > 20, true);
         check.due("28: without a failure", kinds[1] > 20, true);
         check.due("28: with a failure", kinds[2] > 20, true);
@@ -37,11 +38,11 @@ public final class DangerTest {
             room[t] = t < tanks ? 20 : 0;
             free[t] = t < tanks ? 99 : portCount[kind[t]];
         }
-        int[][] ends = new int[24][2];
-        int[] pipeRoom = new int[24];
-        for (int p = 0; p < 24; p++) {
+        int[][] ends = new int[5 + random(12)][2];
+        int[] pipeRoom = new int[ends.length];
+        for (int p = 0; p < ends.length; p++) {
             for (int side = 0; side < 2; side++) {
-                int t = side == 0 && random(4) == 0 ? random(tanks) : tanks + random(kind.length - tanks);
+                int t = side == 0 && random(2) == 0 ? random(tanks) : tanks + random(kind.length - tanks);
                 ends[p][side] = free[t] > 0 ? t : -1;
                 free[t] -= free[t] > 0 ? 1 : 0;
             }
@@ -72,13 +73,13 @@ public final class DangerTest {
             }
         }
         for (int i = 0; i < 30; i++) {
-            int what = random(6);
-            int x = random(model.kind.length);
+            int what = random(7);
+            int x = what == 3 || what == 4 || what < 2 ? random(5) : random(model.kind.length);
             int y = random(what == 2 ? 10 : 5);
             house.bind(0, Math.min(what, 2), x, y, 5);
             if (what < 3) {
                 check.due(name + "act", house.act(0), model.act(what, x, y, 5));
-            } else if (what == 3) {
+            } else if (what < 5) {
                 check.due(name + "fill", house.fill(x, 1 + y * 3, 3), model.fill(x, 1 + y * 3, 3));
             } else {
                 house.tick(1);
