@@ -1656,6 +1656,7 @@ public final class BreweryHouse {
             }
         }
 
+        /** The next word; one that is none is wrong as it is read, before all that the words in front of it leave open. */
         private void nextWord() {
             while (at < tape.end && Tape.isBlank(tape.at(at))) {
                 at++;
@@ -1671,15 +1672,23 @@ public final class BreweryHouse {
             } else if (Tape.isDigit(c)) {
                 scanNumber();
             } else {
-                word = isMark(c) ? c : BAD;
+                word = c;
                 at++;
+                if (!isMark(c)) {
+                    refuseByte(place);
+                }
                 return;
             }
             c = tape.at(at);
             if (Tape.isLetter(c) || Tape.isDigit(c) || c == '.') {
-                word = BAD;
-                place = at;
+                refuseByte(at);
             }
+        }
+
+        private void refuseByte(int where) {
+            word = BAD;
+            place = where;
+            fail();
         }
 
         private static boolean isMark(int c) {
@@ -1743,7 +1752,7 @@ public final class BreweryHouse {
             deep[node] = 0;
             program.nodes = node + 1;
             if (node == NODES) {
-                word = BAD;
+                fail();
             }
             return node;
         }

@@ -169,8 +169,23 @@ public final class ProgramTextTest {
         wrong(check, NAMES + "set o p+1*^unknown;");
         wrong(check, NAMES + "set o p^+1*2;");
         wrong(check, NAMES + "set o p+1 c^*1 c;");
-        wrong(check, NAMES + "set o p^+1 ?;");
-        wrong(check, NAMES + "set o p^+1 abcdefghijklmn;");
+        wrong(check, NAMES + "set o p^+1 ;?");
+        wrong(check, NAMES + "set o p^+1 abcdefghijkl;");
+        wrong(check, NAMES + "set o (p^+1)?;");
+        // Only the word behind it says whether that was all of it; one that is none is wrong as it is read.
+        wrong(check, NAMES + "set o p+1 ^?;");
+        wrong(check, NAMES + "set o p+1^:");
+        wrong(check, NAMES + "set o p-1 c ^:a;");
+        wrong(check, NAMES + "set o p-1 c^.;");
+        wrong(check, NAMES + "set o p-q^.;");
+        wrong(check, NAMES + "set o p*p^.;");
+        wrong(check, NAMES + "set o p*1 c^.;");
+        wrong(check, NAMES + "set o p+1 abcdefghijkl^mn;");
+        wrong(check, NAMES + "set o p*p ^?;");
+        wrong(check, NAMES + "until p<1^:");
+        wrong(check, NAMES + "until p<1 c ^?;");
+        wrong(check, NAMES + "until p>1 c^.;");
+        wrong(check, NAMES + "until p=q 1234567890;".replace("0;", "^0;"));
         right(check, NAMES + "set o p/p*p;set n p/p;set o p/2;set n 6/3;set o 1*2*3*p;", 5);
     }
 
@@ -209,7 +224,10 @@ public final class ProgramTextTest {
         wrong(check, "output n;set n 1" + Check.times("+1", 149) + "+1^;");
         wrong(check, Check.times("stop;", 299) + "wait 1 s;^");
         wrong(check, Check.times("stop;", 300) + "wait 1 s^;");
-        wrong(check, "output n l;" + Check.times("stop;", 299) + "set n 1 l^+2 c;");
+        wrong(check, "output n l;" + Check.times("stop;", 299) + "set n 1 l+2 c^;");
+        wrong(check, "output n l;" + Check.times("stop;", 298) + "set n 1 l^+2 c;");
+        wrong(check, "output n l;" + Check.times("stop;", 298) + "set n 1 l*3^+2 c;");
+        wrong(check, Check.times("stop;", 299) + "until 1 l<2 c^;");
         wrong(check, "output n l;" + Check.times("stop;", 299) + "set n 1 l+2 l^;");
         wrong(check, "output n;" + Check.times("stop;", 298) + "set n -1;^");
         right(check, "output n;" + Check.times("stop;", 297) + "set n -1;", 298);
