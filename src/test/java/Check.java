@@ -17,7 +17,8 @@ final class Check {
 
     /** The text is read, and the answer is due. */
     void reads(BreweryHouse house, int kind, String text, int want) {
-        due("end(" + kind + ") of \"" + text.replace("\n", "\\n") + "\"", read(house, kind, text), want);
+        String told = text.length() > 200 ? text.substring(0, 80) + " .. " + text.substring(text.length() - 80) : text;
+        due("end(" + kind + ") of \"" + told.replace("\n", "\\n") + "\"", read(house, kind, text), want);
     }
 
     /** A text that is wrong at a place: where the mark ^ stands in it. */
