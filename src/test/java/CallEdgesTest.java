@@ -42,6 +42,7 @@ public final class CallEdgesTest {
         Twins twins = new Twins(check, BUSY, SHOWS);
         tape(check);
         bytesOfTexts(check);
+        firstBytes(check);
         noTexts(twins);
         wrongTexts(twins);
         rightTexts(check);
@@ -98,6 +99,31 @@ public final class CallEdgesTest {
             }
         }
         check.due("what was there stays", h.write(0), 'p');
+    }
+
+    /** The first n bytes are the text, whatever stands behind them: as if nothing did. */
+    private static void firstBytes(Check check) {
+        String[] texts = {"tank 12\nvalve 3\npump\npipe 0 12 100\n", "bar a12 a3 when not c12 or (c1)for 123 latched;",
+            "output abc l;set abc 12.345 l;wait 12 min;step"};
+        for (int kind = 0; kind < 3; kind++) {
+            for (int n = 0; n <= texts[kind].length(); n++) {
+                BreweryHouse whole = new BreweryHouse();
+                Check.feed(whole, texts[kind] + texts[kind]);
+                int due = Check.read(new BreweryHouse(), kind, texts[kind].substring(0, n));
+                check.due("kind " + kind + ", the first " + n + " bytes", whole.end(kind, n), due);
+            }
+        }
+        BreweryHouse h = new BreweryHouse();
+        Check.feed(h, "tank 12\n");
+        check.due("tank 1", h.end(0, 6), -3 - 6);
+        Check.feed(h, "bar a0 when c0 for 36000;");
+        check.due("bar .. for 3600", h.end(1, 23), -3 - 6);
+        Check.feed(h, "stop;");
+        check.due("stop", h.end(2, 4), -3 - 4);
+        Check.feed(h, "stop;x");
+        check.due("stop;", h.end(2, 5), 1);
+        Check.feed(h, "act 12;");
+        check.due("act 1", h.end(2, 5), -3 - 5);
     }
 
     private static void noTexts(Twins twins) {

@@ -21,6 +21,7 @@ public final class DangerTest {
             run(check, "plant " + i + " ");
         }
         System.out.println(kinds[0] + " safe ones, " + kinds[1] + " without and " + kinds[2] + " with a failure");
+        leastOfSeveral(check);
         check.due("28: safe ones", kinds[0] > 20, true);
         check.due("28: without a failure", kinds[1] > 20, true);
         check.due("28: with a failure", kinds[2] > 20, true);
@@ -49,6 +50,25 @@ public final class DangerTest {
             pipeRoom[p] = 1 + random(5);
         }
         return new HouseModel(kind, room, ends, pipeRoom);
+    }
+
+    /** The least space comes first, then the least liquids there: lesser ones meet in a greater space, too. */
+    private static void leastOfSeveral(Check check) throws ReflectiveOperationException {
+        int[][] liquids = {{3, 4, 1, 5}, {4, 3, 1, 2}, {3, 4, 5, 1}, {13, 14, 1, 2}, {1, 2, 13, 14}};
+        for (int[] l : liquids) {
+            BreweryHouse house = Hands.house("tank 9\ntank 9\ntank 9\ntank 9\npipe 0 1 1\npipe 2 3 1\n");
+            house.may(l[0], l[1]);
+            house.may(l[2], l[3]);
+            for (int t = 0; t < 4; t++) {
+                check.due("28: fill", house.fill(t, l[t], 5), true);
+            }
+            check.due("28: safe", house.danger(0), 0);
+            Arrays.fill(meeting(house), 0);
+            check.due("28: without a failure", house.danger(0), 1);
+            check.due("28: the least space", house.danger(1), 0);
+            check.due("28: its lesser liquid", house.danger(2), Math.min(l[0], l[1]));
+            check.due("28: its greater liquid", house.danger(3), Math.max(l[0], l[1]));
+        }
     }
 
     private static int[] meeting(BreweryHouse house) throws ReflectiveOperationException {

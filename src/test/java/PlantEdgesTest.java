@@ -274,17 +274,19 @@ public final class PlantEdgesTest {
             for (int a = 0; a < PORTS[kind]; a++) {
                 for (int b = 0; b < PORTS[kind]; b++) {
                     for (int p = 0; a != b && p < 10; p++) {
-                        passesAt(check, kind, a, b, p);
+                        passesAt(check, kind, PORTS[kind], a, b, p);
+                        // Where nothing is at the ports behind them.
+                        passesAt(check, kind, Math.max(a, b) + 1, a, b, p);
                     }
                 }
             }
         }
     }
 
-    private static void passesAt(Check check, int kind, int a, int b, int p) {
+    private static void passesAt(Check check, int kind, int ports, int a, int b, int p) {
         String what = "POSITIONS: kind " + kind + " from " + a + " to " + b + " at " + p;
         boolean passes = passes(kind, a, b).indexOf('0' + p) >= 0;
-        String plant = guarded("valve " + kind + "\n", PORTS[kind], a, b);
+        String plant = guarded("valve " + kind + "\n", ports, a, b);
         BreweryHouse h = Hands.house(plant);
         Hands.turn(h, 2, p);
         check.due(what + ", one liquid", h.fill(0, 1, 5), true);

@@ -5,6 +5,8 @@ public final class ProgramEdgesTest {
     public static void main(String[] args) {
         Check check = new Check();
         lengthsOfNames(check);
+        namesThatDiffer(check);
+        deepestSum(check);
         digits(check);
         bytesInNoWord(check);
         behindWords(check);
@@ -49,6 +51,55 @@ public final class ProgramEdgesTest {
         right(check, "output a;output z;output az;output za;output a9;output a0;output zz9;", 0);
         wrong(check, "output 1^a;");
         wrong(check, "output ^9;");
+    }
+
+    /** Names of one and two letters and digits: no two of them are one. */
+    private static void namesThatDiffer(Check check) {
+        String letters = "abcdefghijklmnopqrstuvwxyz";
+        String all = letters + "0123456789";
+        java.util.List<String> groups = new java.util.ArrayList<>();
+        StringBuilder group = new StringBuilder();
+        int count = 0;
+        for (int i = 0; i < 26; i++) {
+            for (int j = -1; j < 36; j++) {
+                String name = j < 0 ? letters.substring(i, i + 1) : letters.substring(i, i + 1) + all.charAt(j);
+                // These are words of their own.
+                if (" l c s h in if do ".contains(" " + name + " ")) {
+                    continue;
+                }
+                group.append("signal ").append(name).append(";");
+                count++;
+                if (count % 20 == 0) {
+                    groups.add(group.toString());
+                    group.setLength(0);
+                }
+            }
+        }
+        for (int i = 0; i < groups.size(); i++) {
+            for (int j = 0; j < i; j++) {
+                right(check, groups.get(i) + groups.get(j), 0);
+            }
+        }
+        check.due("groups of names", groups.size(), 47);
+    }
+
+    /** As deep as it goes: 20 brackets, with two sums in front of each of them, in a test. */
+    private static void deepestSum(Check check) {
+        StringBuilder sum = new StringBuilder("1");
+        long due = 1000;
+        for (int i = 0; i < 20; i++) {
+            sum.insert(0, "1+2*(").append(")");
+            due = 1000 + 2 * due;
+        }
+        BreweryHouse h = Hands.started("output o;signal a;set o " + sum + ";until a=" + sum + ";set o 7;");
+        h.tick(1);
+        check.due("deepest sum", h.value(0), due);
+        h.signal(1, due + 1);
+        h.tick(1);
+        check.due("deepest sum in a test, not equal", h.value(0), due);
+        h.signal(1, due);
+        h.tick(1);
+        check.due("deepest sum in a test, equal", h.value(0), 7000);
     }
 
     private static void digits(Check check) {
@@ -277,6 +328,10 @@ public final class ProgramEdgesTest {
         wrong(check, "wait 999999999.999 ^min;");
         wrong(check, "wait 999999999.999 ^h;");
         wrong(check, "wait 2+999999999 ^h;");
+        wrong(check, "wait 1 s+999999999 ^h;");
+        wrong(check, "wait 1 s*999999999 ^min;");
+        wrong(check, "output n;set n 999999999 ^min;");
+        wrong(check, "repeat 999999999 ^h{}");
         BreweryHouse h = Hands.started("output w s;output v s;output n;set w 1 min;set v 1.5 h;set n 2 min/1 s;wait 16666666.666 min;");
         h.tick(1);
         check.due("1 min", h.value(0), 60000);
@@ -484,6 +539,19 @@ public final class ProgramEdgesTest {
             check.due("500 with " + s, Check.read(new BreweryHouse(), 2, four + Check.times("hold;", 100 - made)) > 0, true);
             wrong(check, four + Check.times("hold;", 101 - made) + "^");
         }
+        // All of them in one statement.
+        String small = "step e{" + Check.times("hold;", 6) + "}";
+        String[] alone = {"2 repeat 1{%}", "2 if 1=1{%}", "3 if 1=1{}else{%}", "3 par{%}{}", "3 par{}{%}", "4 par{}{}{%}", "3 limit 1=1{%}then{}", "3 limit 1=1{}then{%}"};
+        for (String text : alone) {
+            int made = text.charAt(0) - '0';
+            // Steps of 100 and 8 statements and blocks, with their do, and single ones up to 500.
+            String inside = Check.times("do a;", 4) + "do e;" + Check.times("hold;", 92 - made);
+            check.due("500 in " + text, Check.read(new BreweryHouse(), 2, step + small + text.substring(2).replace("%", inside)) > 0, true);
+            wrong(check, step + small + text.substring(2).replace("%", inside + "hold;") + "^");
+            wrong(check, step + small + text.substring(2).replace("%", inside + "do a;do a;do a;") + "^");
+        }
+        right(check, step + "step b{" + Check.times("do a;", 4) + Check.times("hold;", 98) + "}do b;", 201);
+        wrong(check, step + "step b{" + Check.times("do a;", 4) + Check.times("hold;", 99) + "}do b;^");
         // A step that is never done does not count; one that is done in others counts as often as they are.
         right(check, step + "step b{" + Check.times("do a;", 9) + "}", 107);
         right(check, step + "step b{do a;do a;}do b;do b;", 102);

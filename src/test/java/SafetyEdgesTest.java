@@ -12,6 +12,7 @@ public final class SafetyEdgesTest {
         meetingInAPipe(check);
         pairsThatMayMeet(check);
         lastLiquids(check);
+        valveWithNumber0(check);
         openWays(check);
         refusedOpening(check);
         safeNow(check);
@@ -201,7 +202,33 @@ public final class SafetyEdgesTest {
             check.due("liquids " + p[0] + " and " + p[1], h.fill(1, p[1], 5), false);
             check.due("may, " + p[0] + " and " + p[1], h.may(p[1], p[0]), true);
             check.due("liquids that may meet, " + p[0] + " and " + p[1], h.fill(1, p[1], 5), true);
+            // In one direction alone.
+            for (int from = 0; from < 2; from++) {
+                h = Hands.house("tank 9\ntank 9\nvalve 3\npipe " + from + " 2 1\npipe 2 " + (1 - from) + " 1\n");
+                h.fill(0, p[0], 5);
+                check.due("liquids " + p[0] + " and " + p[1] + ", from tank " + from, h.fill(1, p[1], 5), false);
+            }
         }
+    }
+
+    private static void valveWithNumber0(Check check) {
+        for (String thing : new String[] {"valve 0\n", "valve 3\n", "valve 6\n", "valve 7\n", "pump\n"}) {
+            BreweryHouse h = Hands.house(thing + "tank 9\ntank 9\npipe 1 0 1\npipe 0 2 1\n");
+            h.fill(1, 1, 5);
+            check.due("thing 0 is between them, " + thing.trim(), h.fill(2, 2, 5), false);
+        }
+        // Kinds 1 and 4 pass from port 0 to port 1 when they fail into position 0.
+        for (int kind : new int[] {1, 4}) {
+            BreweryHouse h = Hands.house("valve " + kind + "\ntank 9\ntank 9\npipe 1 0 1\npipe 0 2 1\n");
+            check.due("POSITION of thing 0, kind " + kind, Hands.turn(h, 0, 2), 0);
+            h.fill(1, 1, 5);
+            check.due("thing 0 may fail into 0, kind " + kind, h.fill(2, 2, 5), false);
+        }
+        BreweryHouse h = Hands.house("valve 0\nvalve 0\ntank 9\ntank 9\npipe 2 0 1\npipe 0 1 1\npipe 1 3 1\n");
+        h.fill(2, 1, 5);
+        check.due("valves 0 and 1 are between them", h.fill(3, 2, 5), true);
+        check.due("POSITION of valve 0", Hands.turn(h, 0, 1), 7);
+        check.due("POSITION of valve 1", Hands.turn(h, 1, 1), 7);
     }
 
     private static void openWays(Check check) {

@@ -6,6 +6,9 @@ public final class SecondEdgesTest {
         rates(check);
         emptyFirstTank(check);
         fullSecondTank(check);
+        fullBehindSeveralPipes(check);
+        waysBehindAClosedOne(check);
+        drainedPipes(check);
         emptyLitres(check);
         pipeOfOneLitre(check);
         pipeOfManyLitres(check);
@@ -128,6 +131,85 @@ public final class SecondEdgesTest {
         Hands.open(h, 0, 1, 100);
         h.tick(1);
         check.due("one litre fits", litres(h, 0, 2, 1), 7001003);
+    }
+
+    /** What would come is what leaves the last pipe, not another one. */
+    private static void fullBehindSeveralPipes(Check check) {
+        BreweryHouse h = Hands.house("tank 9\ntank 2\nvalve 0\nvalve 0\npipe 0 2 1\npipe 2 3 2\npipe 3 1 3\n");
+        h.fill(0, 1, 9);
+        h.fill(1, 1, 2);
+        Hands.open(h, 0, 1, 4);
+        h.tick(1);
+        check.due("pipe 0 is full, the last one is empty: it moves", litres(h, 0, 4), 5001);
+        check.due("the next one is full, too", litres(h, 5, 6), 2001);
+        h.tick(5);
+        check.due("all pipes are full, and the tank", litres(h, 4, 5, 6), 1002003);
+        check.due("what is left", litres(h, 0, 1), 3002);
+        // The other way round: the last pipe has litres at its end, the first one has none.
+        h = Hands.house("tank 9\ntank 1\nvalve 2\ntank 9\npipe 2 1 2\npipe 0 2 2\npipe 3 2 1\n");
+        h.fill(3, 1, 9);
+        h.fill(1, 1, 1);
+        Hands.open(h, 3, 1, 2);
+        h.tick(2);
+        Hands.close(h, 3, 1);
+        check.due("the last pipe is full, pipe 1 is empty", litres(h, 4, 5, 6), 2000001);
+        h.fill(0, 1, 9);
+        Hands.open(h, 0, 1, 1);
+        h.tick(2);
+        check.due("nothing fits, nothing moves", litres(h, 0, 5), 9000);
+    }
+
+    /** When one way is closed the others go on as they were: their litres a second, their liquid, their pipes. */
+    private static void waysBehindAClosedOne(Check check) {
+        String plant = Check.times("tank 90\n", 6) + "valve 0\npipe 0 1 1\npipe 2 6 1\npipe 6 3 1\npipe 4 5 7\n";
+        for (int closed = 0; closed < 3; closed++) {
+            BreweryHouse h = Hands.house(plant);
+            for (int k = 0; k < 3; k++) {
+                h.fill(2 * k, 1 + k, 90);
+                check.due("OPEN " + k, Hands.open(h, 2 * k, 2 * k + 1, 3 + 2 * k), 0);
+            }
+            h.tick(1);
+            Hands.close(h, 2 * closed, 2 * closed + 1);
+            h.tick(4);
+            for (int k = 0; k < 3; k++) {
+                int moved = (3 + 2 * k) * (k == closed ? 1 : 5);
+                int room = k == 0 ? 1 : k == 1 ? 2 : 7;
+                check.due("way " + k + ", when " + closed + " was closed", litres(h, 2 * k, 2 * k + 1), (90 - moved) * 1000 + Math.max(0, moved - room));
+                check.due("liquid " + k + ", when " + closed + " was closed", h.space(2 * k + 1, 2), k == 2 && k == closed ? 0 : 1 + k);
+            }
+            check.due("two are open", h.way(1, 0) >= 0 && h.way(2, 0) < 0, true);
+            check.due("pipes of the first", h.way(0, 2), closed == 0 ? 2 : 1);
+            check.due("pipes of the second", h.way(1, 2), closed == 2 ? 2 : 1);
+            check.due("the last pipe of the one with two", h.way(closed == 0 ? 0 : 1, 4), closed == 1 ? -1 : 2);
+        }
+        // A full tank behind the last of them.
+        BreweryHouse h = Hands.house("tank 9\ntank 9\ntank 9\ntank 1\npipe 0 1 9\npipe 2 3 1\n");
+        h.fill(0, 1, 9);
+        h.fill(2, 2, 9);
+        Hands.open(h, 0, 1, 1);
+        Hands.open(h, 2, 3, 2);
+        h.tick(1);
+        Hands.close(h, 0, 1);
+        h.tick(3);
+        check.due("full behind the other one", litres(h, 2, 5, 3), 7001001);
+    }
+
+    /** A pipe that was drained is empty, litre by litre, whatever its number is. */
+    private static void drainedPipes(Check check) {
+        for (int p = 0; p < 24; p++) {
+            BreweryHouse h = Hands.house("tank 900\ntank 900\n" + Check.times("pipe - - 1\n", p) + "pipe 0 1 200\n" + Check.times("pipe - - 1\n", 23 - p));
+            h.need(1, 1, 0);
+            h.fill(0, 1, 900);
+            Hands.open(h, 0, 1, 100);
+            h.tick(2);
+            Hands.close(h, 0, 1);
+            check.due("full pipe " + p, litres(h, 2 + p), 200);
+            Hands.drain(h, 2 + p);
+            check.due("drained pipe " + p, litres(h, 2 + p) + h.space(2 + p, 0), 0);
+            Hands.open(h, 0, 1, 100);
+            h.tick(2);
+            check.due("only empty litres left pipe " + p, litres(h, 1, 2 + p), 200);
+        }
     }
 
     private static void emptyLitres(Check check) {
@@ -315,6 +397,15 @@ public final class SecondEdgesTest {
         }
         h.fill(0, 14, 9);
         h.fill(3, 1, 1);
+        check.due("the last liquid is what it has", h.space(0, 2) * 100 + h.space(3, 2), 1401);
+        h.need(1, 2, 0);
+        h.need(2, 1, 0);
+        for (int liquid : new int[] {2, 1, 2, 1}) {
+            Hands.drain(h, 3);
+            check.due("the last liquid is the one before", h.space(3, 2), 3 - liquid);
+            h.fill(3, liquid, 1);
+            check.due("the last liquid is what it has now", h.space(3, 2), liquid);
+        }
         check.due("liquids", h.space(0, 0) * 100 + h.space(3, 0), 1401);
         check.due("litres", litres(h, 0, 3), 9001);
     }

@@ -21,6 +21,11 @@ public final class WalkEdgesTest {
         starts(check);
         lookingAtStill(check);
         emptyBlocks(check);
+        roundsBeginAnew(check);
+        limitThatWasNotBegun(check);
+        largestProgram(check);
+        deepestProgram(check);
+        closedWays(check);
         check.done();
     }
 
@@ -197,10 +202,12 @@ public final class WalkEdgesTest {
         check.due("not again", h.answer(2), false);
         check.due("its value stays", h.value(0), MAX);
         check.due("node of the answered one", h.still(0), 0);
+        check.due("no other one", h.still(9), -1);
         h.tick(0);
         check.due("no second", h.still(0), 0);
         h.tick(1);
         check.due("the second behind the answer", h.still(0), 1);
+        check.due("looking does not count", h.still(9), -1);
         check.due("the second ask", h.answer(MIN), true);
         check.due("its value", h.value(1), MIN);
         check.due("the other one stays", h.value(0), MAX);
@@ -564,6 +571,132 @@ public final class WalkEdgesTest {
         check.due("held", h.still(3), 12);
         h.stop();
         check.due("stopped", h.still(0), -1);
+    }
+
+    /** What is done again in the next round is begun anew. */
+    private static void roundsBeginAnew(Check check) {
+        BreweryHouse h = Hands.started("output o;repeat 2{ramp o 4 in 2 s;ramp o 0 in 2 s;}");
+        long[] due = {0, 2000, 4000, 2000, 0, 2000, 4000, 2000, 0};
+        for (int i = 0; i < due.length; i++) {
+            h.tick(1);
+            check.due("ramps in rounds, second " + i, h.value(0), due[i]);
+        }
+        check.due("two rounds", h.state(), 1);
+        h = Hands.started("output o;repeat 2{wait 2 s;par{wait 1 s;set o o+1;}{set o o+10;}repeat 2{set o o+100;wait 1 s;}}");
+        long[] sums = {0, 0, 10, 111, 211, 211, 211, 221, 322, 422, 422};
+        for (int i = 0; i < sums.length; i++) {
+            h.tick(1);
+            check.due("rounds, second " + i, h.value(0), sums[i] * 1000);
+        }
+        check.due("all rounds", h.state(), 1);
+        // A limit that was passed in one round is not in the next one; one that was not is looked at when it is begun.
+        h = Hands.started("signal a;output o;repeat 3{limit a<5{wait 1 s;set o o+1;}then{set o o+10;wait 1 s;}}");
+        h.tick(1);
+        h.signal(0, 5000);
+        h.tick(1);
+        h.signal(0, 0);
+        check.due("passed in the first round", h.value(1), 10000);
+        h.tick(2);
+        check.due("not in the second one", h.value(1), 11000);
+        check.due("one alarm", h.alarm(1, 0), -1);
+        h.signal(0, 5000);
+        h.tick(1);
+        check.due("passed in the third round", h.value(1), 21000);
+    }
+
+    /** A limit that stands no more, and was not begun again as a fault came first, is not looked at before. */
+    private static void limitThatWasNotBegun(Check check) {
+        // 1 repeat, block, limit, block, repeat, 994 blocks, block: the limit is the 1,001st.
+        BreweryHouse h = Hands.started("signal a;repeat 2{limit a<5{}then{}repeat 994{}}");
+        check.due("held", h.tick(1), 2);
+        check.due("the limit was not begun", h.alarm(0, 1) * 10 + h.alarm(0, 2), 62);
+        h.signal(0, 9000);
+        h.hold(false);
+        h.tick(1);
+        check.due("it is begun, and passed", h.alarm(1, 1) * 10 + h.alarm(1, 2), 63);
+        check.due("once", h.alarm(2, 2), -1);
+    }
+
+    /** 500 statements and blocks: the last of them does what it should. */
+    private static void largestProgram(Check check) {
+        String front = "signal a;output o;step e{" + Check.times("hold;", 98) + "}" + Check.times("do e;", 4) + Check.times("hold;", 98);
+        String[] last = {"wait 2 s;", "until a>0;", "ramp o 4 in 2 s;", "ask a;", "set o 7;"};
+        for (String text : last) {
+            for (String before : new String[] {"set o 1;", ""}) {
+                BreweryHouse h = new BreweryHouse();
+                String all = front + (before.equals("") ? "hold;" : before) + text;
+                check.due("500 with " + text, Check.read(h, 2, all) > 0, true);
+                check.reads(new BreweryHouse(), 2, all + "hold;", -3 - all.length() - 5);
+                h.start();
+                // A hold holds when the walk is over; then it goes on.
+                check.due("it stands, " + text, h.tick(1), text.startsWith("set") ? 1 : 2);
+                h.hold(false);
+                h.answer(5);
+                h.signal(0, 5);
+                h.tick(1);
+                int begin = before.equals("") ? 0 : 1000;
+                check.due("behind a second, " + text, h.value(1), text.startsWith("ramp") ? (begin + 4000) / 2 : text.startsWith("set") ? 7000 : begin);
+                h.tick(1);
+                check.due("it ends, " + text, h.state(), 1);
+                check.due("behind two seconds, " + text, h.value(1), text.startsWith("ramp") ? 4000 : text.startsWith("set") ? 7000 : begin);
+            }
+        }
+        String inBlock = front.substring(0, front.length() - 10);
+        for (String text : new String[] {"repeat 2{set o o+1;}", "if a=0{set o 2;}", "repeat 2{wait 1 s;}"}) {
+            BreweryHouse h = new BreweryHouse();
+            check.due("500 with " + text, Check.read(h, 2, inBlock + "hold;" + text) > 0, true);
+            check.due("501 with " + text, Check.read(new BreweryHouse(), 2, inBlock + "hold;hold;" + text) < 0, true);
+            h.start();
+            h.tick(1);
+            h.hold(false);
+            check.due("the last one was done, " + text, h.value(1), text.contains("set") ? 2000 : 0);
+            h.tick(2);
+            check.due("it ends, " + text, h.state(), 1);
+        }
+    }
+
+    /** Forty blocks in one another: what is in the last one goes on, is seen, answered, passed. */
+    private static void deepestProgram(Check check) {
+        for (String around : new String[] {"{%}", "{repeat 1{%}}", "{par{}{%}}", "{if 1=2{}else{%}}", "{limit a<9{%}then{}}"}) {
+            StringBuilder text = new StringBuilder("signal a;output o;step a0{ask a;limit a<5{ramp o 4 in 2 s;}then{}}");
+            int blocks = around.equals("{%}") ? 37 : 18;
+            for (int i = 1; i <= blocks; i++) {
+                text.append("step a").append(i).append(around.replace("%", "do a" + (i - 1) + ";"));
+            }
+            BreweryHouse h = Hands.program(text + (around.equals("{%}") ? "repeat 1{do a37;}" : "repeat 1{repeat 1{do a18;}}"));
+            h.start();
+            h.tick(1);
+            check.due("deep: the ask stands, " + around, h.still(0), 0);
+            check.due("deep: it is answered, " + around, h.answer(1000), true);
+            h.tick(2);
+            check.due("deep: half of the ramp, " + around, h.value(1), 2000);
+            h.signal(0, 6000);
+            check.due("deep: the limit is passed, and all ends, " + around, h.tick(1), 1);
+            check.due("deep: its alarm, " + around, h.alarm(0, 2), 3);
+        }
+    }
+
+    /** Ways that are closed with a run: their valves are shut, not as they stood before. */
+    private static void closedWays(Check check) {
+        Twins.Deed[] ends = {h -> h.hold(true), h -> h.stop(), h -> h.start(), h -> Check.read(h, 2, "stop;"), h -> { h.signal(0, 1000); h.tick(1); },
+            h -> { h.signal(0, 2000); h.tick(1); }, h -> { h.signal(0, 3000); h.tick(1); }};
+        for (int i = 0; i < ends.length; i++) {
+            BreweryHouse h = Hands.house("tank 9\ntank 9\nvalve 1\nvalve 6\ntank 9\ntank 9\npipe 0 2 1\npipe 2 3 1\npipe 3 1 1\npipe 4 5 1\n");
+            Hands.take(h, "signal a;output o;until a>0;if a=1{hold;wait 1 s;}else{if a=2{stop;}else{set o 1/0;}}");
+            h.fill(0, 1, 9);
+            h.fill(4, 1, 9);
+            Hands.turn(h, 2, 9);
+            Hands.turn(h, 3, 9);
+            h.start();
+            h.tick(1);
+            check.due("two ways are open", Hands.open(h, 0, 1, 1) + Hands.open(h, 4, 5, 1), 0);
+            check.due("their valves", h.space(2, 4) * 10 + h.space(3, 4), 1);
+            ends[i].on(h);
+            check.due("no way is open, " + i, h.way(0, 0), -1);
+            check.due("their valves are shut, " + i, h.space(2, 4) * 10 + h.space(3, 4), 20);
+            check.due("nothing moved, " + i, h.space(0, 1) + h.space(4, 1), 18);
+            check.due("they can be opened again, " + i, Hands.open(h, 0, 1, 1) + Hands.open(h, 4, 5, 1), 0);
+        }
     }
 
     private static void emptyBlocks(Check check) {

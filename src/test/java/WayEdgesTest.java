@@ -7,6 +7,8 @@ public final class WayEdgesTest {
         lesserNumbers(check);
         longestWay(check);
         lastThingsAndPipes(check);
+        thingsAndPipesWithNumber0(check);
+        manyWays(check);
         noTankBetween(check);
         directions(check);
         whileOpen(check);
@@ -125,6 +127,56 @@ public final class WayEdgesTest {
         check.due("DRAIN 44", Hands.drain(h, 44), 1);
     }
 
+    private static void thingsAndPipesWithNumber0(Check check) {
+        for (String thing : new String[] {"valve 0\n", "valve 6\n", "pump\n"}) {
+            // Thing 0 is on the way, and pipe 0 is its last one, or its first one.
+            for (String pipes : new String[] {"pipe 1 0 1\npipe 0 2 1\n", "pipe 0 2 1\npipe 1 0 1\n", "pipe 2 0 1\npipe 0 1 1\n"}) {
+                BreweryHouse h = Hands.house(thing + "tank 9\ntank 9\n" + pipes);
+                boolean forth = pipes.startsWith("pipe 1") || !thing.equals("pump\n");
+                h.fill(1, 1, 5);
+                check.due("OPEN over thing 0, " + (thing + pipes).replace("\n", ";"), Hands.open(h, 1, 2, 1), forth ? 0 : 5);
+                check.due("two pipes", h.way(0, 2), forth ? 2 : -1);
+            }
+        }
+        BreweryHouse h = Hands.house("tank 9\ntank 9\nvalve 0\nvalve 0\npipe 2 3 1\npipe 0 2 1\npipe 3 1 1\n");
+        h.fill(0, 1, 5);
+        check.due("pipe 0 is between others", Hands.open(h, 0, 1, 1), 0);
+        way(check, "pipe 0 is between others", h, 0, 0, 1, 3, 1, 0, 2);
+    }
+
+    /** As many ways as there are pipes: from each tank to the next one and back, and on. */
+    private static void manyWays(Check check) {
+        StringBuilder plant = new StringBuilder(Check.times("tank 9\n", 20));
+        for (int p = 0; p < 24; p++) {
+            plant.append("pipe ").append(p % 20).append(" ").append((p + 1 + p / 20) % 20).append(" 1\n");
+        }
+        BreweryHouse h = Hands.house(plant.toString());
+        for (int t = 0; t < 20; t++) {
+            check.due("fill " + t, h.fill(t, 1, 5), true);
+        }
+        for (int p = 0; p < 24; p++) {
+            check.due("OPEN over pipe " + p, Hands.open(h, p % 20, (p + 1 + p / 20) % 20, 1), 0);
+            check.due("it is way " + p, h.way(p, 3), p);
+        }
+        check.due("no way 24", h.way(24, 0), -1);
+        check.due("no pipe is left", Hands.open(h, 1, 0, 1), 5);
+        h.tick(1);
+        int litres = 0;
+        for (int p = 0; p < 24; p++) {
+            litres += h.space(20 + p, 1);
+        }
+        check.due("a litre in each pipe", litres, 24);
+        check.due("CLOSE the first", Hands.close(h, 0, 1), 0);
+        for (int k = 0; k < 23; k++) {
+            check.due("way " + k + " behind CLOSE", h.way(k, 3), k + 1);
+        }
+        check.due("no way 23", h.way(23, 0), -1);
+        check.due("OPEN it again", Hands.open(h, 0, 1, 1), 0);
+        check.due("it is the last", h.way(23, 3), 0);
+        check.due("CLOSE the last", Hands.close(h, 0, 1), 0);
+        check.due("no way 23 again", h.way(23, 0), -1);
+    }
+
     private static void noTankBetween(Check check) {
         BreweryHouse h = Hands.house("tank 9\ntank 9\ntank 9\npipe 0 2 1\npipe 2 1 1\n");
         h.fill(0, 1, 5);
@@ -203,6 +255,16 @@ public final class WayEdgesTest {
         check.due("pipe 0 is not clean", Hands.open(h, 0, 1, 1), 6);
         Hands.clean(h, 2, 5);
         check.due("now it is", Hands.open(h, 0, 1, 1), 0);
+        // A longer way that was looked for before does not count: pipe 1 of it is not clean.
+        h = Hands.house("tank 9\ntank 9\nvalve 0\nvalve 0\ntank 9\ntank 9\npipe 0 2 1\npipe 2 3 1\npipe 3 1 1\npipe 4 5 1\n");
+        h.fill(0, 1, 9);
+        h.fill(4, 1, 9);
+        Hands.open(h, 0, 1, 3);
+        h.tick(1);
+        Hands.close(h, 0, 1);
+        Hands.drain(h, 7);
+        check.due("another way is clean", Hands.open(h, 4, 5, 1), 0);
+        check.due("that one is not", Hands.open(h, 0, 1, 1), 6);
         // Liquid 2 is at valve 4, which may fail: not safe over it, but safe over the pipe from tank to tank.
         String plant = "tank 9\ntank 9\ntank 9\nvalve 0\nvalve 2\nvalve 0\nvalve 0\npipe 0 3 1\npipe 3 4 1\npipe 4 6 1\npipe 6 1 1\n"
                 + "pipe 4 5 1\npipe 5 2 1\npipe 0 1 50\n";
