@@ -130,7 +130,7 @@ public final class AnyCallsTest {
         for (int kind = 0; kind < 3; kind++) {
             Check.read(house, kind, TEXTS[kind][random(TEXTS[kind].length)]);
         }
-        for (int i = 0; i < 500; i++) {
+        for (int i = 0; i < 350; i++) {
             answers = answers * 31 + call();
         }
         return answers;
@@ -138,7 +138,7 @@ public final class AnyCallsTest {
 
     public static void main(String[] args) {
         Check check = new Check();
-        int runs = args.length > 0 ? Integer.parseInt(args[0]) : 1500;
+        int runs = args.length > 0 ? Integer.parseInt(args[0]) : 2000;
         for (int i = 0; i < runs; i++) {
             check.due("run " + i, new AnyCallsTest().run(i), new AnyCallsTest().run(i));
         }

@@ -303,15 +303,22 @@ public final class CallEdgesTest {
     private static void looks(Twins twins) {
         int[] numbers = {MIN, -1, 0, 1, 50, MAX};
         twins.refused("looking", h -> {
-            long all = 0;
             for (int a : numbers) {
-                for (int what : new int[] {MIN, -1, 0, 1, MAX}) {
-                    all += h.row(a, what) * 0 + h.alarm(a, what) * 0 + h.way(a, what) * 0 + h.space(a, what) * 0;
+                for (int what : new int[] {MIN, 0, 1, MAX}) {
+                    h.row(a, what);
+                    h.alarm(a, what);
+                    h.way(a, what);
+                    h.space(a, what);
                 }
-                all += h.bars(a) * 0 + h.still(a) * 0 + h.write(a) * 0 + h.danger(a) * 0 + h.value(a) * 0;
+                h.bars(a);
+                h.still(a);
+                h.write(a);
+                h.danger(a);
+                h.value(a);
             }
-            return all + h.state() * 0 + h.second() * 0;
-        }, 0);
+            h.state();
+            return h.second();
+        }, 2);
     }
 
     private static void writing(Check check) {

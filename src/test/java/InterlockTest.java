@@ -192,6 +192,7 @@ public final class InterlockTest {
         Check.read(h, 1, "bar a1 when not c0;");
         check.due("3: anew", h.row(1, 0), 0);
         check.due("3: one row", h.row(2, 0), -1);
+        // That many seconds take more than 512 calls; the class goes on as before, though nothing is promised of that.
         for (int i = 0; i < 1700; i++) {
             h.tick(600);
         }

@@ -96,8 +96,15 @@ public final class PlantTextTest {
         check.reads(h, 0, "tank 5\nx", -3 - 7);
         writes(check, h, "tank 100000\npump\nvalve 3\npipe 0 - 200\npipe - 1 1\npipe 2 0 17\n");
         String longest = Check.times("tank 100000\n", 20) + Check.times("pipe 19 18 200\n", 24);
-        Check.read(h, 0, longest);
-        writes(check, h, longest);
+        // Two objects, as one is used for 512 calls.
+        for (int half = 0; half < 2; half++) {
+            BreweryHouse other = new BreweryHouse();
+            Check.read(other, 0, longest);
+            for (int i = half * 300; i < half * 300 + 300; i++) {
+                check.due("29: byte " + i, other.write(i), longest.charAt(i));
+            }
+            check.due("29: behind the end", other.write(longest.length()), -1);
+        }
         Check.read(h, 1, "bar a0 when c0;");
         check.due("29: other kinds do not count", h.write(0), 't');
         Check.read(h, 0, "");

@@ -15,8 +15,9 @@ public final class RoomTest {
         BreweryHouse h = new BreweryHouse();
         measure(h);
         System.out.println("a new object: " + objects + " objects and arrays, " + elements + " fields and elements");
-        check.due("few objects", objects < 200, true);
-        check.due("few elements", elements < 20000, true);
+        // A run may make some hundred objects of the class: of 600,000 objects and 7.3 million elements in all.
+        check.due("few objects", objects < 1000, true);
+        check.due("few elements", elements < 40000, true);
         int before = elements;
         for (int i = 0; i < 20; i++) {
             Check.read(h, 0, "tank 9\ntank 9\nvalve 6\npipe 0 2 3\npipe 2 1 1\n");
