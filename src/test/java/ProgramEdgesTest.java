@@ -12,6 +12,7 @@ public final class ProgramEdgesTest {
         behindWords(check);
         endOfText(check);
         wrongWord(check);
+        elseAndThen(check);
         keywords(check);
         numbersOfNames(check);
         knownNames(check);
@@ -207,6 +208,24 @@ public final class ProgramEdgesTest {
             }
             place += WORDS[i].length() + 1;
         }
+    }
+
+    /** then and else belong to limit and if alone. */
+    private static void elseAndThen(Check check) {
+        right(check, "if 1=1{}else{}if 1=1{}", 2);
+        for (String word : new String[] {"else", "then"}) {
+            wrong(check, "repeat 1{}^" + word + "{}");
+            wrong(check, "par{}{}^" + word + "{}");
+            wrong(check, "limit 1=1{}then{}^" + word + "{}");
+            wrong(check, "if 1=1{}else{}^" + word + "{}");
+            wrong(check, "step a{}^" + word + "{}");
+            wrong(check, "stop;^" + word + "{}");
+        }
+        wrong(check, "if 1=1{}^then{}");
+        wrong(check, "limit 1=1{}^else{}");
+        wrong(check, "limit 1=1{}^{}");
+        wrong(check, "if 1=1{}^{}");
+        wrong(check, "repeat 1{}^{}");
     }
 
     private static boolean isNewName(int i) {

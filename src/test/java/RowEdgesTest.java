@@ -307,6 +307,13 @@ public final class RowEdgesTest {
         check.due("reset", h.reset(1), true);
         check.due("not latched", h.row(1, 1) + h.bars(0), 0);
         check.due("reset again", h.reset(1), false);
+        // A row with latched that is off is not latched, with whatever number.
+        BreweryHouse off = new BreweryHouse();
+        Check.read(off, 1, "bar a0 when c0 latched;bar a1 when c0 for 0 latched;bar a2 when c0 for 1 latched;");
+        off.tick(5);
+        for (int row = 1; row <= 3; row++) {
+            check.due("off: not latched, row " + row, off.row(row, 1) + off.bars(row - 1), 0);
+        }
         // A row with latched that is on for too few seconds is not latched.
         h.watch(0, 5, 0, 0);
         h.tick(2);

@@ -26,6 +26,7 @@ public final class WalkEdgesTest {
         largestProgram(check);
         deepestProgram(check);
         closedWays(check);
+        heldWays(check);
         check.done();
     }
 
@@ -269,6 +270,14 @@ public final class WalkEdgesTest {
         h.tick(1);
         check.due("passed when it is begun", h.value(1), 3000);
         check.due("its alarm", h.alarm(0, 2), 3);
+        // One that was passed is not looked at again, though its test fails still.
+        h = Hands.started("signal a;output o;limit a<5{wait 9 s;}then{set o o+1;wait 3 s;}");
+        h.tick(1);
+        h.signal(0, 5000);
+        h.tick(3);
+        check.due("its second block goes on", h.value(1), 1000);
+        check.due("it is passed once", h.alarm(0, 2) * 10 + h.alarm(1, 2), 29);
+        check.due("it ends", h.tick(1), 1);
         // A limit that has ended is not looked at any more.
         h = Hands.started("signal a;limit a<5{}then{}wait 5 s;");
         h.tick(1);
@@ -486,10 +495,68 @@ public final class WalkEdgesTest {
         check.due("a fault of the limit", h.tick(1), 2);
         check.due("nothing went on", h.value(1), 0);
         check.due("its node", h.alarm(0, 1), 2);
+        check.due("it is not passed", h.alarm(1, 1), -1);
         h.signal(0, -1000);
         h.hold(false);
         check.due("passed then", h.tick(1), 1);
+        faultsEndTheWalk(check);
         check.due("its second block", h.value(1), 2000);
+    }
+
+    /** The walk of the second is over at a fault, and at a stop: nothing goes on, is looked at, or done behind it. */
+    private static void faultsEndTheWalk(Check check) {
+        BreweryHouse h = Hands.started("signal a;output o;par{limit 1/a>0{ramp o 8 in 4 s;}then{}}{limit a>0{wait 9 s;}then{}}");
+        h.signal(0, 1000);
+        h.tick(2);
+        check.due("a quarter of the ramp", h.value(1), 2000);
+        h.signal(0, 0);
+        check.due("a fault of the first limit", h.tick(1), 2);
+        check.due("the ramp does not go on", h.value(1), 2000);
+        check.due("the second limit is not looked at", h.alarm(0, 2) * 10 + h.alarm(1, 2), 9);
+        h.signal(0, 1000);
+        h.hold(false);
+        h.tick(1);
+        check.due("the ramp goes on from there", h.value(1), 4000);
+        check.due("the second limit stands", h.still(1), 16);
+        // Two limits whose looks fail: the first is one fault, the second is not looked at.
+        h = Hands.started("signal a;par{limit 1/a>0{limit 3/a>0{wait 9 s;}then{}}then{}}{limit 2/a>0{wait 9 s;}then{}}");
+        h.signal(0, 1000);
+        h.tick(1);
+        h.signal(0, 0);
+        h.tick(1);
+        check.due("one fault", h.alarm(0, 1) * 10 + h.alarm(0, 2), 21);
+        check.due("no other one", h.alarm(1, 1), -1);
+        // Acts and waits of the sides behind it.
+        String[] ends = {"stop;", "set o 1/a;", "wait 1 s/a;", "until 1/a=1;"};
+        for (String end : ends) {
+            h = Hands.house("tank 9\nvalve 0\n");
+            Hands.take(h, "signal a;output o;par{wait 2 s;" + end + "}{wait 2 s;act 0;}{wait 3 s;act 1;wait 9 s;}");
+            h.bind(0, 2, 1, 5, 0);
+            h.bind(1, 2, 1, 6, 0);
+            h.start();
+            h.tick(2);
+            check.due("behind the fault, " + end, h.tick(1), end.equals("stop;") ? 3 : 2);
+            check.due("the act of the next side is not done, " + end, h.space(1, 4), 0);
+            if (!end.equals("stop;")) {
+                h.signal(0, 1000);
+                h.hold(false);
+                h.tick(1);
+                check.due("it is done in the next second of the run, " + end, h.space(1, 4), 5);
+                h.tick(1);
+                check.due("and the other one in the one behind it, " + end, h.space(1, 4), 6);
+            }
+        }
+        // A block that was to be begun again does not stand as it did in the round before.
+        h = Hands.started("signal a;output o;repeat 2{limit o+a<5{wait 9 s;}then{set o -9;}repeat 995{}}");
+        h.tick(1);
+        check.due("the wait stands", h.still(0), 7);
+        h.signal(0, 9000);
+        check.due("the block of the limit is the 1,001st", h.tick(1), 2);
+        check.due("its node", h.alarm(1, 1) * 10 + h.alarm(1, 2), 82);
+        check.due("nothing stands", h.still(0), -1);
+        h.hold(false);
+        h.tick(1);
+        check.due("now the wait stands", h.still(0), 7);
     }
 
     private static void alarmsUpTo200(Check check) {
@@ -674,6 +741,28 @@ public final class WalkEdgesTest {
             check.due("deep: the limit is passed, and all ends, " + around, h.tick(1), 1);
             check.due("deep: its alarm, " + around, h.alarm(0, 2), 3);
         }
+    }
+
+    private static void heldWays(Check check) {
+        BreweryHouse h = Hands.house("tank 9\ntank 9\npipe 0 1 1\n");
+        Hands.take(h, "wait 9 s;");
+        h.fill(0, 1, 9);
+        h.start();
+        h.hold(true);
+        check.due("a way is opened by hand while it is held", Hands.open(h, 0, 1, 1), 0);
+        check.due("hold(true) again is refused", h.hold(true), false);
+        check.due("the way stays", h.way(0, 0), 0);
+        h.tick(1);
+        check.due("a held run closes no ways", h.way(0, 0), 0);
+        check.due("it goes on", h.hold(false), true);
+        check.due("going on closes no ways", h.way(0, 0), 0);
+        h.tick(1);
+        check.due("two litres have moved", h.space(0, 1), 7);
+        h.tick(9);
+        check.due("ended", h.state(), 1);
+        check.due("its end closes no ways", h.way(0, 0), 0);
+        check.due("stop of an ended one is refused", h.stop(), false);
+        check.due("and closes no ways", h.way(0, 0), 0);
     }
 
     /** Ways that are closed with a run: their valves are shut, not as they stood before. */
