@@ -12,6 +12,7 @@ public final class SafetyEdgesTest {
         meetingInAPipe(check);
         pairsThatMayMeet(check);
         lastLiquids(check);
+        largestPlant(check);
         valveWithNumber0(check);
         openWays(check);
         refusedOpening(check);
@@ -209,6 +210,29 @@ public final class SafetyEdgesTest {
                 check.due("liquids " + p[0] + " and " + p[1] + ", from tank " + from, h.fill(1, p[1], 5), false);
             }
         }
+    }
+
+    /** 20 things and 24 pipes: what is not joined does not meet, and the last ones do. */
+    private static void largestPlant(Check check) {
+        BreweryHouse h = Hands.house(Check.times("tank 9\n", 20) + "pipe 2 3 1\n" + Check.times("pipe - - 1\n", 22) + "pipe 18 19 1\n");
+        for (int t = 0; t < 18; t++) {
+            int liquid = t == 3 ? 3 : 1 + t % 14;
+            check.due("tank " + t + " of the largest plant", h.fill(t, liquid, 5), true);
+        }
+        check.due("the last tank", h.fill(19, 14, 5), true);
+        check.due("another liquid at the last pipe", h.fill(18, 13, 5), false);
+        check.due("the same liquid at the last pipe", h.fill(18, 14, 5), true);
+        check.due("another liquid at the first pipe", h.fill(2, 4, 1), false);
+        check.due("safe", h.danger(0), 0);
+        // Nineteen of them in a row, with a valve that may fail: it floods from one end to the other.
+        StringBuilder plant = new StringBuilder(Check.times("tank 9\n", 19) + "valve 0\n");
+        for (int p = 0; p < 18; p++) {
+            plant.append(p == 9 ? "pipe 9 19 1\npipe 19 10 1\n" : "pipe " + p + " " + (p + 1) + " 1\n");
+        }
+        h = Hands.house(plant + Check.times("pipe 18 - 1\n", 5));
+        check.due("one end of the row", h.fill(0, 1, 5), true);
+        check.due("the other end of the row", h.fill(18, 2, 5), false);
+        check.due("the other end of the row, the same liquid", h.fill(18, 1, 5), true);
     }
 
     private static void valveWithNumber0(Check check) {

@@ -487,6 +487,19 @@ public final class WalkEdgesTest {
         h.hold(false);
         h.tick(2);
         check.due("ended", h.state(), 1);
+        // An until whose look fails has not ended: it is looked at again.
+        h = Hands.started("signal a;output o;until 1/a=1;set o 1;");
+        h.signal(0, 500);
+        h.tick(1);
+        h.signal(0, 0);
+        check.due("a fault of the until", h.tick(1), 2);
+        h.signal(0, 500);
+        h.hold(false);
+        check.due("it stands", h.tick(1), 0);
+        check.due("its node", h.still(0), 5);
+        check.due("nothing behind it was done", h.value(1), 0);
+        h.signal(0, 1000);
+        check.due("it ends", h.tick(1), 1);
         // A limit whose look fails is looked at again, before anything goes on.
         h = Hands.started("signal a;output o;limit 1/a>0{wait 1 s;set o 1;}then{set o 2;}");
         h.signal(0, 1000);
