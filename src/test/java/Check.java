@@ -15,6 +15,13 @@ final class Check {
         due(what, got ? 1 : 0, want ? 1 : 0);
     }
 
+    void due(String what, String got, String want) {
+        if (!got.equals(want)) {
+            wrong++;
+            System.out.println(what + " answered " + got + ", due is " + want);
+        }
+    }
+
     /** The text is read, and the answer is due. */
     void reads(BreweryHouse house, int kind, String text, int want) {
         String told = text.length() > 200 ? text.substring(0, 80) + " .. " + text.substring(text.length() - 80) : text;

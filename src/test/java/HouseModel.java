@@ -4,6 +4,7 @@ import java.util.LinkedList;
 import java.util.List;
 import java.util.Set;
 import java.util.TreeSet;
+import java.util.function.IntUnaryOperator;
 
 /** The plant's part of the document in its plainest form: all ways are tried, all failures flooded, litre by litre. */
 final class HouseModel {
@@ -65,6 +66,35 @@ final class HouseModel {
         for (int[] row : need) {
             java.util.Arrays.fill(row, 5);
         }
+    }
+
+    /** A small plant, made at random. */
+    static HouseModel any(IntUnaryOperator dice) {
+        int tanks = 2 + dice.applyAsInt(4);
+        int others = dice.applyAsInt(8);
+        int[] kind = new int[tanks + others];
+        int[] room = new int[tanks + others];
+        int[] free = new int[tanks + others];
+        int[] portCount = {2, 3, 3, 2, 4, 1, 2, 2, 2};
+        for (int t = 0; t < kind.length; t++) {
+            boolean tank = t < tanks;
+            kind[t] = tank ? TANK : dice.applyAsInt(5) == 0 ? 4 : dice.applyAsInt(9);
+            room[t] = tank ? 1 + dice.applyAsInt(30) : 0;
+            free[t] = tank ? 99 : portCount[kind[t]];
+        }
+        int[][] ends = new int[dice.applyAsInt(24) + 1][2];
+        int[] pipeRoom = new int[ends.length];
+        for (int p = 0; p < ends.length; p++) {
+            for (int side = 0; side < 2; side++) {
+                int t = dice.applyAsInt(3) == 0 ? dice.applyAsInt(tanks) : dice.applyAsInt(kind.length);
+                ends[p][side] = free[t] > 0 && dice.applyAsInt(12) > 0 ? t : -1;
+                if (ends[p][side] >= 0) {
+                    free[t]--;
+                }
+            }
+            pipeRoom[p] = 1 + dice.applyAsInt(dice.applyAsInt(9) == 0 ? 200 : 4);
+        }
+        return new HouseModel(kind, room, ends, pipeRoom);
     }
 
     String text() {
@@ -436,34 +466,40 @@ final class HouseModel {
         return space >= kind.length && pipeIsTaken(space - kind.length);
     }
 
-    int act(int what, int x, int y, int z) {
+    boolean isBound(int what, int x, int y) {
         switch (what) {
             case 0:
-                return isTank(x) && isTank(y) && x != y ? openWay(x, y, z) : 1;
             case 1:
-                if (!isTank(x) || !isTank(y) || x == y) {
-                    return 1;
-                }
+                return isTank(x) && isTank(y) && x != y;
+            case 2:
+                return x >= 0 && x < kind.length && kind[x] < PUMP;
+            default:
+                return isHolder(x);
+        }
+    }
+
+    int act(int what, int x, int y, int z) {
+        if (!isBound(what, x, y)) {
+            return 1;
+        }
+        switch (what) {
+            case 0:
+                return openWay(x, y, z);
+            case 1:
                 if (wayFrom(x, y) == null) {
                     return 3;
                 }
                 close(wayFrom(x, y));
                 return 0;
             case 2:
-                return x >= 0 && x < kind.length && kind[x] < PUMP ? setPosition(x, y) : 1;
+                return setPosition(x, y);
             case 3:
-                if (!isHolder(x)) {
-                    return 1;
-                }
                 if (liquid(x) != 0 || isOnWay(x)) {
                     return 3;
                 }
                 cleanings.get(x).add(new int[] {y, second});
                 return 0;
             default:
-                if (!isHolder(x)) {
-                    return 1;
-                }
                 return isOnWay(x) ? 3 : drain(x);
         }
     }

@@ -22,36 +22,8 @@ public final class HouseModelTest {
         check.done();
     }
 
-    private static HouseModel plant() {
-        int tanks = 2 + random(4);
-        int others = random(8);
-        int[] kind = new int[tanks + others];
-        int[] room = new int[tanks + others];
-        int[] free = new int[tanks + others];
-        int[] portCount = {2, 3, 3, 2, 4, 1, 2, 2, 2};
-        for (int t = 0; t < kind.length; t++) {
-            boolean tank = t < tanks;
-            kind[t] = tank ? HouseModel.TANK : random(5) == 0 ? 4 : random(9);
-            room[t] = tank ? 1 + random(30) : 0;
-            free[t] = tank ? 99 : portCount[kind[t]];
-        }
-        int[][] ends = new int[random(24) + 1][2];
-        int[] pipeRoom = new int[ends.length];
-        for (int p = 0; p < ends.length; p++) {
-            for (int side = 0; side < 2; side++) {
-                int t = random(3) == 0 ? random(tanks) : random(kind.length);
-                ends[p][side] = free[t] > 0 && random(12) > 0 ? t : -1;
-                if (ends[p][side] >= 0) {
-                    free[t]--;
-                }
-            }
-            pipeRoom[p] = 1 + random(random(9) == 0 ? 200 : 4);
-        }
-        return new HouseModel(kind, room, ends, pipeRoom);
-    }
-
     private static void run(Check check, int number) {
-        HouseModel model = plant();
+        HouseModel model = HouseModel.any(HouseModelTest::random);
         BreweryHouse house = new BreweryHouse();
         String name = "plant " + number + " ";
         check.due(name, Check.read(house, 0, model.text()), model.kind.length);
@@ -112,7 +84,8 @@ public final class HouseModelTest {
         check.due(name + "act " + what + " " + x + " " + y + " " + z, house.act(3), due);
     }
 
-    private static void compare(Check check, String name, HouseModel model, BreweryHouse house) {
+    /** Holds all that calls tell of the plant against the model. */
+    static void compare(Check check, String name, HouseModel model, BreweryHouse house) {
         int n = model.kind.length;
         for (int s = 0; s < n + model.ends.length; s++) {
             boolean holder = s >= n || model.kind[s] == HouseModel.TANK;

@@ -1,5 +1,6 @@
 import java.util.ArrayList;
 import java.util.List;
+import java.util.function.IntUnaryOperator;
 
 /** Programs as trees that are written out as texts, and a plain walk over them with a new object for all that begins. */
 final class RunModel {
@@ -34,14 +35,16 @@ final class RunModel {
     final List<int[]> alarms = new ArrayList<>();
     int state;
     int second;
-    private Seq root;
+    // Does an act: the reason why it is refused; without a house it is bound to nothing.
+    IntUnaryOperator acts = k -> 1;
+    private final Seq root;
     private int begun;
-    private int acts;
+    private int actsBegun;
     private boolean holding;
 
-    RunModel(List<Node> main, int names, int second) {
+    RunModel(List<Node> main, long[] values, int second) {
         this.main = main;
-        this.values = new long[names];
+        this.values = values;
         this.second = second;
         this.root = new Seq(main);
     }
@@ -59,7 +62,7 @@ final class RunModel {
     void tick() {
         if (state == 0) {
             begun = 0;
-            acts = 0;
+            actsBegun = 0;
             holding = false;
             try {
                 root.limits();
@@ -81,6 +84,19 @@ final class RunModel {
             root.still(all);
         }
         return all;
+    }
+
+    /** Answers the first ask that waits for it: whether there is one. */
+    boolean answer(long value) {
+        for (Frame frame : still()) {
+            Leaf leaf = (Leaf) frame;
+            if (state == 0 && leaf.node.kind.equals("ask") && !leaf.answered) {
+                leaf.answered = true;
+                values[leaf.node.name] = value;
+                return true;
+            }
+        }
+        return false;
     }
 
     private long reckon(Node n) {
@@ -118,11 +134,11 @@ final class RunModel {
     }
 
     private void count(Node n) {
-        if (begun == 1000 || n.kind.equals("act") && acts == 10) {
+        if (begun == 1000 || n.kind.equals("act") && actsBegun == 10) {
             fault(2, n);
         }
         begun++;
-        acts += n.kind.equals("act") ? 1 : 0;
+        actsBegun += n.kind.equals("act") ? 1 : 0;
     }
 
     /** Something that was begun and has not ended. */
@@ -186,7 +202,10 @@ final class RunModel {
                 values[n.name] = reckon(n.sums.get(0));
                 return null;
             case "act":
-                alarm(11, n);
+                int reason = acts.applyAsInt(n.act);
+                if (reason > 0) {
+                    alarm(10 + reason, n);
+                }
                 return null;
             case "hold":
                 holding = true;
