@@ -2069,14 +2069,15 @@ public final class BreweryHouse {
         private final int[] stage = new int[PARTS + 1];
         // Where a block stands; the block that a statement does.
         private final int[] current = new int[PARTS + 1];
-        // Seconds or rounds that are left, seconds of a ramp that went by, 1 for an ask with its answer.
+        // The walk in which a wait goes on, or a ramp was begun; rounds that are left; 1 for an ask with its answer.
         private final long[] count = new long[PARTS + 1];
         private final long[] length = new long[PARTS + 1];
         private final long[] base = new long[PARTS + 1];
         private final long[] goal = new long[PARTS + 1];
         private int skipped;
         private final long[] stack = new long[64];
-        private boolean over;
+        // Waits and ramps go by this: a walk that ends in a fault is a second for those that it did not come to, too.
+        private long walks;
         private boolean holding;
         private int begun;
         private int actsBegun;
@@ -2137,28 +2138,32 @@ public final class BreweryHouse {
 
         /** One second of the run. */
         void walk() {
-            over = false;
+            walks++;
             holding = false;
             begun = 0;
             actsBegun = 0;
             lookAtLimits(0, 0);
-            boolean ended = !over && goOn(0, 0);
+            boolean ended = !isOver() && goOn(0, 0);
             if (ended) {
                 state = ENDED;
-            } else if (!over && holding) {
+            } else if (!isOver() && holding) {
                 state = HELD;
             }
         }
 
+        /** Whether a fault or a stop has ended the walk of this second. */
+        private boolean isOver() {
+            return state != ON;
+        }
+
         private void fault(int kind, int where) {
             alarms.add(stock.now, where, kind);
-            over = true;
             state = HELD;
         }
 
         private void lookAtLimits(int block, int depth) {
             int s = stage[block] == 1 ? current[block] : NONE;
-            if (over || s < 0 || stage[s] == 0 || depth >= DEPTH) {
+            if (isOver() || s < 0 || stage[s] == 0 || depth >= DEPTH) {
                 return;
             }
             int kind = program.kind[node[s]];
@@ -2177,7 +2182,7 @@ public final class BreweryHouse {
 
         private void lookAtLimit(int s) {
             long test = reckon(program.from[node[s]], program.to[node[s]]);
-            if (!over && test == 0) {
+            if (!isOver() && test == 0) {
                 alarms.add(stock.now, node[s], 3);
                 choose(s, next[first[s]]);
             }
@@ -2254,7 +2259,7 @@ public final class BreweryHouse {
                         all = false;
                     }
                 }
-                if (over) {
+                if (isOver()) {
                     return false;
                 }
                 side = next[side];
@@ -2288,7 +2293,6 @@ public final class BreweryHouse {
                     return DONE;
                 case STOP:
                     state = STOPPED;
-                    over = true;
                     return STANDS;
                 case ASK:
                     count[s] = 0;
@@ -2324,7 +2328,7 @@ public final class BreweryHouse {
         private int beginReckoned(int s, int kind) {
             int n = node[s];
             long value = reckon(program.from[n], program.to[n]);
-            if (over) {
+            if (isOver()) {
                 return STANDS;
             }
             switch (kind) {
@@ -2332,8 +2336,8 @@ public final class BreweryHouse {
                     setValue(n, value);
                     return DONE;
                 case WAIT:
-                    count[s] = value / 1000;
-                    return count[s] < 1 ? DONE : stand(s);
+                    count[s] = walks + value / 1000;
+                    return count[s] <= walks ? DONE : stand(s);
                 case UNTIL:
                     return value != 0 ? DONE : stand(s);
                 case RAMP:
@@ -2358,14 +2362,14 @@ public final class BreweryHouse {
         private int beginRamp(int s, long value) {
             int n = node[s];
             long seconds = reckon(program.to[n], n) / 1000;
-            if (over) {
+            if (isOver()) {
                 return STANDS;
             }
             if (seconds < 1) {
                 setValue(n, value);
                 return DONE;
             }
-            count[s] = 0;
+            count[s] = walks;
             length[s] = seconds;
             base[s] = program.worth[program.arg[n]];
             goal[s] = value;
@@ -2376,23 +2380,25 @@ public final class BreweryHouse {
             int n = node[s];
             switch (kind) {
                 case WAIT:
-                    count[s]--;
-                    return count[s] < 1 ? DONE : STANDS;
+                    return count[s] <= walks ? DONE : STANDS;
                 case UNTIL:
                     return reckon(program.from[n], program.to[n]) != 0 ? DONE : STANDS;
                 case RAMP:
-                    count[s]++;
-                    if (count[s] >= length[s] || length[s] < 1) {
-                        setValue(n, goal[s]);
-                        return DONE;
-                    }
-                    setValue(n, base[s] + Math.floorDiv((goal[s] - base[s]) * count[s], length[s]));
-                    return STANDS;
+                    return rampOn(s, walks - count[s]);
                 case ASK:
                     return count[s] != 0 ? DONE : STANDS;
                 default:
                     return INSIDE;
             }
+        }
+
+        private int rampOn(int s, long seconds) {
+            if (seconds >= length[s] || length[s] < 1) {
+                setValue(node[s], goal[s]);
+                return DONE;
+            }
+            setValue(node[s], base[s] + Math.floorDiv((goal[s] - base[s]) * seconds, length[s]));
+            return STANDS;
         }
 
         /** The value of the last of some nodes; 0 at a division by 0, and the walk is over. */

@@ -41,6 +41,8 @@ final class RunModel {
     private int begun;
     private int actsBegun;
     private boolean holding;
+    // Seconds in which the run was on as they began, those with a fault too.
+    private long walked;
 
     RunModel(List<Node> main, long[] values, int second) {
         this.main = main;
@@ -61,6 +63,7 @@ final class RunModel {
 
     void tick() {
         if (state == 0) {
+            walked++;
             begun = 0;
             actsBegun = 0;
             holding = false;
@@ -253,7 +256,7 @@ final class RunModel {
         final long length;
         final long base;
         final long goal;
-        long gone;
+        final long begin = walked;
         boolean answered;
 
         Leaf(Node n, long length, long base, long goal) {
@@ -265,7 +268,7 @@ final class RunModel {
 
         @Override
         boolean goOn() {
-            gone++;
+            long gone = Math.min(length, walked - begin);
             switch (node.kind) {
                 case "wait":
                     return gone == length;

@@ -529,7 +529,7 @@ public final class WalkEdgesTest {
         h.signal(0, 1000);
         h.hold(false);
         h.tick(1);
-        check.due("the ramp goes on from there", h.value(1), 4000);
+        check.due("three seconds behind its begin", h.value(1), 6000);
         check.due("the second limit stands", h.still(1), 16);
         // Two limits whose looks fail: the first is one fault, the second is not looked at.
         h = Hands.started("signal a;par{limit 1/a>0{limit 3/a>0{wait 9 s;}then{}}then{}}{limit 2/a>0{wait 9 s;}then{}}");
@@ -543,7 +543,7 @@ public final class WalkEdgesTest {
         String[] ends = {"stop;", "set o 1/a;", "wait 1 s/a;", "until 1/a=1;"};
         for (String end : ends) {
             h = Hands.house("tank 9\nvalve 0\n");
-            Hands.take(h, "signal a;output o;par{wait 2 s;" + end + "}{wait 2 s;act 0;}{wait 3 s;act 1;wait 9 s;}");
+            Hands.take(h, "signal a;output o;par{wait 2 s;" + end + "}{wait 2 s;act 0;}{wait 4 s;act 1;wait 9 s;}");
             h.bind(0, 2, 1, 5, 0);
             h.bind(1, 2, 1, 6, 0);
             h.start();
@@ -556,7 +556,7 @@ public final class WalkEdgesTest {
                 h.tick(1);
                 check.due("it is done in the next second of the run, " + end, h.space(1, 4), 5);
                 h.tick(1);
-                check.due("and the other one in the one behind it, " + end, h.space(1, 4), 6);
+                check.due("and the other one 4 seconds behind its begin, " + end, h.space(1, 4), 6);
             }
         }
         // A block that was to be begun again does not stand as it did in the round before.
