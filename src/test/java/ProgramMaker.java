@@ -12,6 +12,8 @@ final class ProgramMaker {
     final List<Integer> kinds = new ArrayList<>();
     final List<RunModel.Node> main = new ArrayList<>();
     int statements;
+    // Name 0 is a signal that many tests divide by.
+    final boolean faulty;
     private final IntUnaryOperator dice;
     private final List<Integer> units = new ArrayList<>();
     private final List<RunModel.Node> steps = new ArrayList<>();
@@ -19,13 +21,14 @@ final class ProgramMaker {
     private int deepest;
     private boolean tight;
 
-    ProgramMaker(IntUnaryOperator dice) {
+    ProgramMaker(IntUnaryOperator dice, boolean faulty) {
         this.dice = dice;
+        this.faulty = faulty;
         tight = random(2) == 0;
         declare();
         int count = 1 + random(6);
         for (int i = 0; i < count; i++) {
-            main.add(statement(0));
+            main.add(faulty && i == 0 ? sides() : statement(0));
         }
     }
 
@@ -148,11 +151,29 @@ final class ProgramMaker {
     }
 
     private RunModel.Node test(int depth) {
+        if (faulty && random(3) > 0) {
+            return quotient();
+        }
         int unit = random(6);
         RunModel.Node n = new RunModel.Node(new String[] {"<", "=", ">"}[random(3)]);
         n.sums.add(sum(unit, depth));
         word(n.kind);
         n.sums.add(sum(unit, depth));
+        return number(n);
+    }
+
+    private RunModel.Node quotient() {
+        RunModel.Node divided = new RunModel.Node("/");
+        divided.sums.add(literal(0));
+        word("/");
+        RunModel.Node by = new RunModel.Node("name");
+        word(names.get(0));
+        divided.sums.add(number(by));
+        number(divided);
+        RunModel.Node n = new RunModel.Node(random(4) == 0 ? "<" : ">");
+        n.sums.add(divided);
+        word(n.kind);
+        n.sums.add(literal(0));
         return number(n);
     }
 
@@ -232,6 +253,11 @@ final class ProgramMaker {
         return number(n);
     }
 
+    private RunModel.Node sides() {
+        statements++;
+        return compound(random(2) == 0 ? 13 : 17, 0);
+    }
+
     private RunModel.Node compound(int pick, int depth) {
         int step = nameOf(2);
         if (pick < 13 && step >= 0) {
@@ -265,14 +291,14 @@ final class ProgramMaker {
     }
 
     private void declare() {
-        int count = random(7);
+        int count = faulty ? 2 + random(4) : random(7);
         for (int i = 0; i < count; i++) {
-            int kind = random(3);
+            int kind = faulty && i < 2 ? i : random(3);
             String name = (random(2) == 0 ? "name" : "x") + i;
             RunModel.Node block = null;
             word(kind == 0 ? "signal" : kind == 1 ? "output" : "step");
             word(name);
-            int unit = random(2) == 0 ? 0 : random(6);
+            int unit = faulty && i == 0 || random(2) == 0 ? 0 : random(6);
             if (kind == 2) {
                 block = block(1);
                 nodes++;

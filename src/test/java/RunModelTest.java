@@ -5,7 +5,13 @@ public final class RunModelTest {
     private static long seed = 151126;
     private static final int[] HITS = new int[40];
 
-    private final ProgramMaker maker = new ProgramMaker(RunModelTest::random);
+    private final ProgramMaker maker;
+    private final boolean faulty;
+
+    private RunModelTest(boolean faulty) {
+        this.faulty = faulty;
+        maker = new ProgramMaker(RunModelTest::random, faulty);
+    }
 
     private static int random(int n) {
         seed = seed * 6364136223846793005L + 1442695040888963407L;
@@ -16,7 +22,7 @@ public final class RunModelTest {
         Check check = new Check();
         int programs = args.length > 0 ? Integer.parseInt(args[0]) : 3000;
         for (int i = 0; i < programs; i++) {
-            new RunModelTest().run(check, "program " + i + " ");
+            new RunModelTest(i % 2 == 1).run(check, "program " + i + " ");
         }
         for (int hit : new int[] {1, 2, 3, 11, 20, 21, 22, 23, 30, 31, 32}) {
             check.due("kind " + hit + " is met often", HITS[hit] > 20, true);
@@ -50,6 +56,16 @@ public final class RunModelTest {
     }
 
     private void drive(Check check, String title, BreweryHouse house, RunModel model) {
+        if (faulty) {
+            // A second of a fault now and then, behind which the run goes on.
+            long by = random(4) == 0 ? 0 : 100 + random(3) * 400;
+            check.due(title + "what is divided by", house.signal(0, by), true);
+            model.values[0] = by;
+            if (model.state == 2 && random(3) > 0) {
+                check.due(title + "goes on", house.hold(false), true);
+                model.state = 0;
+            }
+        }
         int pick = random(10);
         int name = maker.names.isEmpty() ? 0 : random(maker.names.size());
         long value = random(5) * 1000L - 1000 + random(3) * 250;

@@ -80,9 +80,9 @@ public final class WholeModelTest {
     }
 
     private void newProgram() {
-        ProgramMaker maker = new ProgramMaker(WholeModelTest::random);
+        ProgramMaker maker = new ProgramMaker(WholeModelTest::random, random(3) == 0);
         while (!maker.fits() || maker.answer() < 0) {
-            maker = new ProgramMaker(WholeModelTest::random);
+            maker = new ProgramMaker(WholeModelTest::random, random(3) == 0);
         }
         check.due(title + "program " + maker.text, Check.read(house, 2, maker.text.toString()), maker.answer());
         model.newProgram(maker);
@@ -111,6 +111,7 @@ public final class WholeModelTest {
 
     private void change(int pick) {
         if (pick < 10) {
+            divide();
             tick(1 + random(3) / 2);
         } else if (pick < 14) {
             fill();
@@ -127,6 +128,15 @@ public final class WholeModelTest {
             tellLiquids(pick);
         } else {
             tellAnew();
+        }
+    }
+
+    /** In some seconds many tests of the program divide by 0; behind them it goes on. */
+    private void divide() {
+        if (model.program.faulty) {
+            long by = random(4) == 0 ? 0 : 500;
+            check.due(title + "what is divided by", house.signal(0, by), model.signal(0, by));
+            check.due(title + "goes on", house.hold(false), model.hold(false));
         }
     }
 
